@@ -269,6 +269,23 @@ public final class NestedDollsPromises {
         due(7, "acts done", x.many(3), 11);
         due(7, "put 3 into none", x.act(26), -3);
         due(7, "put into the last", act(x, 4, 3, 15), 3);
+        due(7, "one doll alone is opened", act(of("n;p10"), 0), 1);
+        everyPut();
+    }
+
+    private static void everyPut() {
+        for (int d = 0; d < 4; d++) {
+            for (int e = 0; e < 4; e++) {
+                NestedDolls x = of("n;p20;p20;p20;p20");
+                x.girth(e, 9);
+                x.room(e, 8);
+                x.act(e);
+                due(7, d + " into " + e, x.act(12 + 4 * d + e), d == e ? -3 : 3);
+                due(7, d + " is in " + e, x.ofDoll(d, 4), d == e ? 0 : e + 1);
+                due(7, "another one into " + e, x.act(12 + 4 * ((d + 1) % 4) + e), d == e ? 3 : -3);
+                due(10, "most within", x.day(0, BYTES, 0, 0, 4), 1);
+            }
+        }
     }
 
     private static void actsThatCannotBe() {
@@ -380,6 +397,8 @@ public final class NestedDollsPromises {
         due(10, "its fault", x.fault(), 0);
         take(x, "n;p10");
         due(10, "a cell above", x.day(1, SHORTS, 0, 1, 0), -2);
+        x.put(1, 0, 27);
+        due(10, "the last act can't be", x.day(1, SHORTS, 0, 1, 1), 0);
         x.put(1, 0, 4);
         x.put(1, 1, -1);
         due(10, "a cell below behind a wrong one", x.day(1, SHORTS, 0, 2, 1), -2);
@@ -472,6 +491,8 @@ public final class NestedDollsPromises {
         due(12, "from how all is now", two.stands(0), 7);
         act(two, 8);
         due(12, "taken out for ever", two.stands(0), 4);
+        take(one, "n;p10;p10");
+        due(12, "one more on the same object", one.stands(0), 4);
         // over all ways to part four into chains, the product of each chain's length and 1
         due(12, "four", of("n;p10;p32;p54;p98").stands(0), 152);
     }
