@@ -494,7 +494,9 @@ public final class NestedDollsPromises {
         take(one, "n;p10;p10");
         due(12, "one more on the same object", one.stands(0), 4);
         // over all ways to part four into chains, the product of each chain's length and 1
-        due(12, "four", of("n;p10;p32;p54;p98").stands(0), 152);
+        for (String text : new String[] {"n;p10;p32;p54;p98", "n;p98;p54;p32;p10", "n;p54;p10;p32;p98"}) {
+            due(12, text, of(text).stands(0), 152);
+        }
     }
 
     private static void tidyAndChain() {
